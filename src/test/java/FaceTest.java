@@ -1,0 +1,93 @@
+import java.lang.reflect.Constructor;
+import java.lang.reflect.Field;
+import java.lang.reflect.Method;
+import java.lang.reflect.Modifier;
+import java.util.Set;
+import java.util.TreeSet;
+
+/** The class has the document's face and nothing beside it, and keeps the rules of LANGUAGE.md that can be seen of it from outside. */
+public final class FaceTest {
+    private static final Set<String> FACE = Set.of(
+        "pass 2", "point 3", "drop 1", "stand 4", "set 3", "sun 4", "storm 2", "key 1", "burnt 3",
+        "told 2", "order 1", "dish 2", "way 3", "where 4", "offer 2", "share 4",
+        "take 2", "round 0", "looked 2", "count 1", "image 1", "restore 1");
+    private static final Set<String> CONSTANTS = Set.of("UNKNOWN=-1", "OUTSIDE=-2", "STATE=-3", "FULL=-4", "NO=-5", "NONE=-6");
+    private static int wrong = 0;
+
+    private static void check(boolean holds, String what) {
+        if (!holds) {
+            wrong++;
+            System.out.println("does not hold: " + what);
+        }
+    }
+
+    private static void checkMethods() {
+        Set<String> open = new TreeSet<>();
+        Set<String> openNames = new TreeSet<>();
+        for (Method m : DishRounds.class.getDeclaredMethods()) {
+            if (Modifier.isPublic(m.getModifiers())) {
+                open.add(m.getName() + " " + m.getParameterCount());
+                openNames.add(m.getName());
+                check(m.getReturnType() == int.class, m + " answers an int");
+                for (Class<?> p : m.getParameterTypes()) {
+                    check(p == int.class, m + " takes ints");
+                }
+            }
+        }
+        check(open.equals(FACE), "the public methods are those of the document: " + open);
+        for (Method m : DishRounds.class.getDeclaredMethods()) {
+            boolean isFace = Modifier.isPublic(m.getModifiers());
+            check(isFace || Modifier.isPrivate(m.getModifiers()), m + " is public or private");
+            check(isFace || !openNames.contains(m.getName()), m + " bears no public name");
+        }
+        for (Class<?> c : DishRounds.class.getDeclaredClasses()) {
+            for (Method m : c.getDeclaredMethods()) {
+                check(!openNames.contains(m.getName()), m + " bears no public name");
+                check(m.getParameterCount() <= 7, m + " takes at most seven");
+            }
+        }
+    }
+
+    private static void checkFields() throws IllegalAccessException {
+        Set<String> open = new TreeSet<>();
+        int own = 0;
+        for (Field f : DishRounds.class.getDeclaredFields()) {
+            int mods = f.getModifiers();
+            if (Modifier.isPublic(mods)) {
+                check(Modifier.isStatic(mods) && Modifier.isFinal(mods) && f.getType() == int.class, f + " is a constant");
+                open.add(f.getName() + "=" + f.getInt(null));
+            } else {
+                check(Modifier.isPrivate(mods), f + " is private");
+                check(!Modifier.isStatic(mods) || Modifier.isFinal(mods), f + " is final if static");
+            }
+            own += Modifier.isStatic(mods) ? 0 : 1;
+        }
+        check(open.equals(CONSTANTS), "the public constants are those of the document: " + open);
+        check(own <= 20, "some twenty fields");
+    }
+
+    private static void checkClasses() {
+        int mods = DishRounds.class.getModifiers();
+        check(Modifier.isPublic(mods) && Modifier.isFinal(mods), "the class is public and final");
+        check(DishRounds.class.getPackageName().isEmpty(), "the class has no package");
+        Constructor<?>[] makers = DishRounds.class.getDeclaredConstructors();
+        check(makers.length == 1 && Modifier.isPublic(makers[0].getModifiers()) && makers[0].getParameterCount() == 0,
+            "one public constructor without parameters");
+        Class<?>[] inside = DishRounds.class.getDeclaredClasses();
+        check(inside.length < 12, "at most some twelve classes");
+        for (Class<?> c : inside) {
+            check(Modifier.isStatic(c.getModifiers()) && !Modifier.isPublic(c.getModifiers()), c + " is static and not public");
+            check(c.getDeclaredFields().length <= 20, c + " has some twenty fields");
+        }
+    }
+
+    public static void main(String[] args) throws IllegalAccessException {
+        checkClasses();
+        checkMethods();
+        checkFields();
+        System.out.println(wrong == 0 ? "the face is as due" : wrong + " faults");
+        if (wrong != 0) {
+            System.exit(1);
+        }
+    }
+}

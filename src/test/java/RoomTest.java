@@ -1,0 +1,56 @@
+import java.lang.management.ManagementFactory;
+
+/** All calls of a run live in one room: the dearest calls make nothing new, and end soon. */
+public final class RoomTest {
+    /** The rows are ints, four bytes each; 60,000 of them leave a hundred objects room in one run. */
+    private static final long MOST_BYTES_OF_AN_OBJECT = 240_000;
+    private static final long MOST_BYTES_OF_512_CALLS = 64_000;
+
+    private static long made() {
+        com.sun.management.ThreadMXBean bean = (com.sun.management.ThreadMXBean) ManagementFactory.getThreadMXBean();
+        return bean.getCurrentThreadAllocatedBytes();
+    }
+
+    /** Eight passes none of which is seen, so that each round works out all ways anew behind a change. */
+    private static void fill(DishRounds x) {
+        for (int d = 0; d < 4; d++) {
+            x.set(d, 0, 36);
+            x.set(d, 1, 3);
+        }
+        for (int n = 0; n < 8; n++) {
+            x.pass(n, 60);
+            for (int k = 0; k < 16; k++) {
+                x.point(n, (n + 7 * k) % 24, 6);
+            }
+        }
+    }
+
+    private static int dearCalls(DishRounds x, int calls) {
+        int sum = 0;
+        for (int i = 0; i < calls; i += 4) {
+            sum += x.round();
+            sum += x.stand(i / 4 % 4, i / 4 % 36, 6, 0);
+            sum += x.share(i / 4 % 8, 0, 3, 1);
+            sum += x.image(i / 4 % 2) + x.restore(i / 4 % 2);
+        }
+        return sum;
+    }
+
+    public static void main(String[] args) {
+        made();
+        fill(new DishRounds());
+        long before = made();
+        DishRounds x = new DishRounds();
+        long object = made() - before;
+        fill(x);
+        dearCalls(x, 4);
+        before = made();
+        dearCalls(x, 512);
+        long calls = made() - before;
+        System.out.println("an object: " + object + " bytes, 512 dear calls: " + calls + " bytes");
+        if (object > MOST_BYTES_OF_AN_OBJECT || calls > MOST_BYTES_OF_512_CALLS) {
+            System.out.println("that is too much");
+            System.exit(1);
+        }
+    }
+}

@@ -280,8 +280,8 @@ public final class DishRounds {
         if (!now.flights[i].isOpen()) {
             return STATE;
         }
-        Way first = search.bestWay(one, now.flights[i]);
-        Way second = search.bestWay(other, now.flights[i]);
+        Way first = search.sharedWay(one, now.flights[i]);
+        Way second = search.sharedWay(other, now.flights[i]);
         int k = bestHandOver(first, second, now.flights[i].size);
         return what == 0 ? k : first.seenBefore[k] + second.seenFrom[k];
     }
@@ -666,6 +666,8 @@ public final class DishRounds {
         final int[] seenFrom = new int[MOST_POINTS + 1];
         int name = NONE;
         boolean found = false;
+        /** Whether seenBefore and seenFrom are worked out, too. */
+        boolean isShared = false;
         int free = 0;
         int last = 0;
         int seen = 0;
@@ -681,6 +683,7 @@ public final class DishRounds {
                 sights[t] = false;
             }
             found = false;
+            isShared = false;
             seen = 0;
             steps = 0;
             firstSeen = NONE;
@@ -719,17 +722,21 @@ public final class DishRounds {
 
     /**
      * Works out THE WAYS. What a WAY is worth is one number: SEEN_WORTH for each POINT that is SEEN, less the STEPS.
-     * A row is a TICK, from FREE on; its cells are WINDS (LIMIT added) and HEIGHTS. First, row by row, each cell gets
-     * the most that a WAY to it is worth; then, from the last row back, the most that the rest of a WAY from it on is
-     * worth. By these THE WAY is followed, to the least cell that keeps the most, TICK by TICK.
+     * A row is a TICK, from FREE on; its cells are WINDS (LIMIT added) and HEIGHTS. From the last row back each cell
+     * gets the most that the rest of a WAY from it on is worth. By these THE WAY is followed, TICK by TICK, to the
+     * least cell that keeps the most. What HANDED OVER asks for takes a second walk, forth from the first row.
      */
     private static final class Search {
         private final World world;
         /** For each DISH that of the PASS for which it was last asked, as the same one is often asked for again. */
         private final Way[] ways = new Way[DISHES];
-        private final int[] worth = new int[ROWS * CELLS];
-        private final int[] tilted = new int[CELLS];
-        private final int[] reached = new int[CELLS];
+        /** Of each row and cell, the most that the rest of a WAY from it on is worth. */
+        private final int[] rest = new int[ROWS * CELLS];
+        /** Of each cell of one row, the most that a WAY to it is worth. */
+        private final int[] front = new int[CELLS];
+        /** With a WIND more at either end that stays dead, so that each one has a neighbour on both sides. */
+        private int[] reached = new int[CELLS + 2 * HEIGHTS];
+        private int[] spare = new int[CELLS + 2 * HEIGHTS];
         private Mount mount;
         private Flight flight;
         private int rows = 0;
@@ -754,61 +761,46 @@ public final class DishRounds {
 
         Way bestWay(int dish, Flight forFlight) {
             Way best = ways[dish];
-            if (best.name == forFlight.name) {
-                return best;
-            }
-            mount = world.mounts[dish];
-            flight = forFlight;
-            rows = flight.lastTick() - mount.free + 1;
-            best.clear(flight.name);
-            if (isIn(rows, 1, ROWS)) {
-                goForth(best);
-                goBack(best);
+            if (best.name != forFlight.name) {
+                mount = world.mounts[dish];
+                flight = forFlight;
+                rows = Math.min(ROWS, flight.lastTick() - mount.free + 1);
+                best.clear(flight.name);
+                goBack();
                 follow(best);
             }
             return best;
         }
 
-        private void goForth(Way found) {
-            for (int row = 0; row < rows; row++) {
-                if (row == 0) {
-                    beginRow();
-                } else {
-                    reach(row - 1, row);
-                    enterRow(row);
-                }
-                aimAt(row);
-                addGain(row);
-                int k = pointOf(row);
-                if (k >= 0) {
-                    found.seenBefore[k + 1] = mostSeen(row);
-                }
+        /** THE WAY with what is seen of parts of the PASS; unless it has that, the rests are needed anew, too. */
+        Way sharedWay(int dish, Flight forFlight) {
+            Way best = ways[dish];
+            if (!best.isShared) {
+                best.name = NONE;
             }
+            bestWay(dish, forFlight);
+            if (!best.isShared) {
+                goForth(best);
+            }
+            return best;
         }
 
-        private void goBack(Way found) {
+        private void goBack() {
             Arrays.fill(reached, 0);
             for (int row = rows - 1; row >= 0; row--) {
                 if (row < rows - 1) {
-                    reach(row + 1, row);
+                    reach(rest, (row + 1) * CELLS, row + 1);
                 }
-                leaveRow(row);
+                enterRow(rest, row * CELLS, row);
                 aimAt(row);
-                addGain(row);
-                int k = pointOf(row);
-                if (k >= 0) {
-                    found.seenFrom[k] = mostSeen(row);
-                }
-            }
-            for (int k = 0; k < flight.size && flight.begin + k < mount.free; k++) {
-                found.seenFrom[k] = mostSeen(0);
+                addGain(rest, row * CELLS, row);
             }
         }
 
         private void follow(Way found) {
             int wind = mount.wind + mount.limit;
             int height = mount.height;
-            if (isDead(worth[cell(0, wind, height)])) {
+            if (rows < 1 || isDead(rest[cell(0, wind, height)])) {
                 return;
             }
             for (int row = 0; row < rows; row++) {
@@ -829,12 +821,12 @@ public final class DishRounds {
 
         /** From a cell of the row before, which is still aimed at, the least one by which the most is kept. */
         private int nextCell(int row, int wind, int height) {
-            int rest = worth[cell(row - 1, wind, height)] - gain(wind, height);
+            int due = rest[cell(row - 1, wind, height)] - gain(wind, height);
             int lastWind = Math.min(highWind(row), wind + mount.speed);
             int lastHeight = Math.min(STRAIGHT_UP, height + 1);
             for (int w = Math.max(lowWind(row), wind - mount.speed); w <= lastWind; w++) {
                 for (int h = Math.max(0, height - 1); h <= lastHeight; h++) {
-                    if (worth[cell(row, w, h)] - Math.abs(w - wind) - Math.abs(h - height) == rest) {
+                    if (rest[cell(row, w, h)] - Math.abs(w - wind) - Math.abs(h - height) == due) {
                         return w * HEIGHTS + h;
                     }
                 }
@@ -842,73 +834,91 @@ public final class DishRounds {
             return wind * HEIGHTS + height;
         }
 
-        /** The most that cells of one row get from those of another, STEPS taken off: forth or back, moves are alike. */
-        private void reach(int from, int to) {
-            int low = lowWind(from);
-            int high = highWind(from);
-            tilt(from, low, high);
-            int end = highWind(to);
-            for (int w = lowWind(to); w <= end; w++) {
-                int first = Math.max(low, w - mount.speed);
-                int last = Math.min(high, w + mount.speed);
-                for (int h = 0; h < HEIGHTS; h++) {
-                    int most = DEAD;
-                    for (int v = first; v <= last; v++) {
-                        most = Math.max(most, tilted[v * HEIGHTS + h] - Math.abs(v - w));
-                    }
-                    reached[w * HEIGHTS + h] = most;
+        /** Behind goBack, whose rests it reads: in which cells one can be, and with how much SEEN before and behind. */
+        private void goForth(Way found) {
+            found.isShared = true;
+            Arrays.fill(reached, 0);
+            for (int row = 0; row < rows; row++) {
+                if (row > 0) {
+                    reach(front, 0, row - 1);
                 }
+                enterRow(front, 0, row);
+                aimAt(row);
+                addGain(front, 0, row);
+                int k = pointOf(row);
+                if (k >= 0) {
+                    found.seenBefore[k + 1] = mostSeen(front, 0, row);
+                    found.seenFrom[k] = mostSeen(rest, row * CELLS, row);
+                }
+            }
+            for (int k = 0; k < flight.size && flight.begin + k < mount.free; k++) {
+                found.seenFrom[k] = found.seen;
             }
         }
 
-        /** The most of each cell of a row and of those one HEIGHT below and above. */
-        private void tilt(int row, int low, int high) {
+        /** The most that is got from the cells of a row by one TICK, STEPS taken off: forth or back, moves are alike. */
+        private void reach(int[] cells, int start, int row) {
+            Arrays.fill(reached, DEAD);
+            Arrays.fill(spare, DEAD);
+            int low = lowWind(row);
+            int high = highWind(row);
+            tilt(cells, start, low, high);
+            for (int n = 0; n < mount.speed; n++) {
+                low = Math.max(0, low - 1);
+                high = Math.min(2 * mount.limit, high + 1);
+                turn(low, high);
+            }
+        }
+
+        /** A HEIGHT up or down, or none. */
+        private void tilt(int[] cells, int start, int low, int high) {
             for (int w = low; w <= high; w++) {
-                int base = cell(row, w, 0);
+                int from = start + w * HEIGHTS;
+                int to = (w + 1) * HEIGHTS;
                 for (int h = 0; h < HEIGHTS; h++) {
-                    int most = worth[base + h];
-                    if (h > 0) {
-                        most = Math.max(most, worth[base + h - 1] - 1);
+                    int most = cells[from + h];
+                    if (h > 0 && cells[from + h - 1] - 1 > most) {
+                        most = cells[from + h - 1] - 1;
                     }
-                    if (h < STRAIGHT_UP) {
-                        most = Math.max(most, worth[base + h + 1] - 1);
+                    if (h < STRAIGHT_UP && cells[from + h + 1] - 1 > most) {
+                        most = cells[from + h + 1] - 1;
                     }
-                    tilted[w * HEIGHTS + h] = most;
+                    reached[to + h] = most;
                 }
             }
         }
 
-        /** At FREE the DISH stands as it does, neither THE SUN nor the STORM is asked. */
-        private void beginRow() {
-            int base = cell(0, mount.wind + mount.limit, 0);
-            for (int h = 0; h < HEIGHTS; h++) {
-                worth[base + h] = h == mount.height ? 0 : DEAD;
+        /** A WIND either way, or none. */
+        private void turn(int low, int high) {
+            int end = (high + 2) * HEIGHTS;
+            for (int i = (low + 1) * HEIGHTS; i < end; i++) {
+                int most = reached[i];
+                if (reached[i - HEIGHTS] - 1 > most) {
+                    most = reached[i - HEIGHTS] - 1;
+                }
+                if (reached[i + HEIGHTS] - 1 > most) {
+                    most = reached[i + HEIGHTS] - 1;
+                }
+                spare[i] = most;
             }
+            int[] turned = spare;
+            spare = reached;
+            reached = turned;
         }
 
-        private void enterRow(int row) {
+        /** In the first row, at FREE, the DISH stands as it does: neither THE SUN nor the STORM is asked. */
+        private void enterRow(int[] cells, int start, int row) {
             int tick = mount.free + row;
-            boolean isStormy = world.sky.isStormy(tick);
+            boolean isStormy = row > 0 && world.sky.isStormy(tick);
             int end = highWind(row);
             for (int w = lowWind(row); w <= end; w++) {
-                boolean isSunny = world.sky.isSunSide(sideOf(w - mount.limit), tick);
-                int base = cell(row, w, 0);
+                boolean isSunny = row > 0 && world.sky.isSunSide(sideOf(w - mount.limit), tick);
+                int from = (w + 1) * HEIGHTS;
+                int to = start + w * HEIGHTS;
                 for (int h = 0; h < HEIGHTS; h++) {
-                    int most = reached[w * HEIGHTS + h];
-                    boolean isShut = isStormy && h < STRAIGHT_UP || isSunny && world.sky.isSunHeight(h);
-                    worth[base + h] = isShut || isDead(most) ? DEAD : most;
-                }
-            }
-        }
-
-        /** Cells to which no WAY goes stay dead. */
-        private void leaveRow(int row) {
-            int end = highWind(row);
-            for (int w = lowWind(row); w <= end; w++) {
-                int base = cell(row, w, 0);
-                for (int h = 0; h < HEIGHTS; h++) {
-                    int most = reached[w * HEIGHTS + h];
-                    worth[base + h] = isDead(worth[base + h]) || isDead(most) ? DEAD : most;
+                    boolean isShut = row == 0 && h != mount.height || isStormy && h != STRAIGHT_UP
+                        || isSunny && world.sky.isSunHeight(h);
+                    cells[to + h] = isShut ? DEAD : reached[from + h];
                 }
             }
         }
@@ -926,15 +936,15 @@ public final class DishRounds {
             }
         }
 
-        private void addGain(int row) {
+        private void addGain(int[] cells, int start, int row) {
             if (!isHeight(goalHeight)) {
                 return;
             }
             int end = highWind(row);
             for (int w = lowWind(row); w <= end; w++) {
-                int at = cell(row, w, goalHeight);
-                if (!isDead(worth[at])) {
-                    worth[at] += gain(w, goalHeight);
+                int at = start + w * HEIGHTS + goalHeight;
+                if (!isDead(cells[at])) {
+                    cells[at] += gain(w, goalHeight);
                 }
             }
         }
@@ -949,14 +959,16 @@ public final class DishRounds {
             return isIn(k, 0, flight.size - 1) ? k : -1;
         }
 
-        /** Rounded up, as the STEPS that were taken off are less than one POINT is worth; 0 if all is dead. */
-        private int mostSeen(int row) {
+        /**
+         * The most of the cells of a row in which one can be. Rounded up, as the STEPS that were taken off are less
+         * than one POINT is worth; 0 if all are dead.
+         */
+        private int mostSeen(int[] cells, int start, int row) {
             int most = DEAD;
-            int end = highWind(row);
-            for (int w = lowWind(row); w <= end; w++) {
-                int base = cell(row, w, 0);
-                for (int h = 0; h < HEIGHTS; h++) {
-                    most = Math.max(most, worth[base + h]);
+            int end = (highWind(row) + 1) * HEIGHTS;
+            for (int i = lowWind(row) * HEIGHTS; i < end; i++) {
+                if (!isDead(front[i])) {
+                    most = Math.max(most, cells[start + i]);
                 }
             }
             return isDead(most) ? 0 : (most + SEEN_WORTH - 1) / SEEN_WORTH;

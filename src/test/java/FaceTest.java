@@ -1,11 +1,15 @@
+import java.io.IOException;
 import java.lang.reflect.Constructor;
 import java.lang.reflect.Field;
 import java.lang.reflect.Method;
 import java.lang.reflect.Modifier;
+import java.nio.file.Files;
+import java.nio.file.Path;
 import java.util.Set;
 import java.util.TreeSet;
+import java.util.regex.Pattern;
 
-/** The class has the document's face and nothing beside it, and keeps the rules of LANGUAGE.md that can be seen of it from outside. */
+/** The class has the document's face and nothing beside it, and keeps those rules of LANGUAGE.md that are easily looked up. */
 public final class FaceTest {
     private static final Set<String> FACE = Set.of(
         "pass 2", "point 3", "drop 1", "stand 4", "set 3", "sun 4", "storm 2", "key 1", "burnt 3",
@@ -81,7 +85,21 @@ public final class FaceTest {
         }
     }
 
-    public static void main(String[] args) throws IllegalAccessException {
+    private static void checkSource() throws IOException {
+        String text = Files.readString(Path.of("src/main/java/DishRounds.java"));
+        String code = Pattern.compile("/\\*.*?\\*/|//[^\n]*", Pattern.DOTALL).matcher(text).replaceAll("");
+        for (String word : new String[] {"throw", "throws", "try", "catch", "synchronized", "assert", "package", "static\\s*\\{"}) {
+            check(!Pattern.compile("\\b" + word).matcher(code).find(), "no " + word);
+        }
+        for (String sign : new String[] {"->", "::", "Exact(", "equals(", "hashCode", "\""}) {
+            check(!code.contains(sign), "no " + sign);
+        }
+        check(code.indexOf("import") == code.lastIndexOf("import"), "one import, that of Arrays");
+        check(text.chars().allMatch(c -> c == 10 || c >= 32 && c < 127), "plain signs");
+    }
+
+    public static void main(String[] args) throws IllegalAccessException, IOException {
+        checkSource();
         checkClasses();
         checkMethods();
         checkFields();

@@ -581,6 +581,12 @@ public final class PromiseTest {
         x.point(50, 0, 5);
         due("19 in time", x.round(), 1);
         due("19 in time", x.told(50, 3), 2);
+        DishRounds y = new DishRounds();
+        for (int n = 0; n < 8; n++) {
+            track(y, n, 15 - 2 * n, 0, 5);
+        }
+        due("19 all eight", y.round(), 8);
+        due("19 all eight", y.count(1) * 100 + y.looked(0, 5) * 10 + y.told(7, 3), 880);
     }
 
     private static void promise20Looked() {
@@ -704,6 +710,11 @@ public final class PromiseTest {
         track(x, 2, 0, 0, 6);
         x.take(0, 2);
         due("then: taken", x.way(0, 1, 1), 0);
+        x.key(6);
+        track(x, 3, 0, 0, 6, 0, 6);
+        due("then: seen at the first tick", x.where(1, 3, 0, 2) * 10 + x.where(1, 3, 1, 2), 11);
+        x.key(5);
+        due("then: not seen", x.where(1, 3, 0, 2) * 10 + x.where(1, 3, 1, 2), 0);
     }
 
     public static void main(String[] args) {

@@ -419,6 +419,40 @@ public final class PromiseTest {
         due("14 too high to follow", y.way(0, 2, 2), -6);
     }
 
+    /** The longest way, at both ends of the widest limit, in the last ticks. */
+    private static void term2Corners() {
+        DishRounds x = new DishRounds();
+        x.key(6);
+        for (int d = 0; d < 4; d++) {
+            x.set(d, 0, 36);
+            x.set(d, 1, 3);
+        }
+        x.pass(1, 60);
+        x.pass(2, 60);
+        for (int n = 0; n < 16; n++) {
+            x.point(1, 12, 0);
+            x.point(2, 12, 6);
+        }
+        x.stand(0, -36, 0, 0);
+        x.stand(1, 36, 0, 0);
+        x.stand(2, -36, 6, 0);
+        x.stand(3, 36, 6, 0);
+        wayIs("14 corner", x, 0, 1, 16, 0, 60, 75, 0, 0);
+        wayIs("14 corner", x, 1, 1, 16, 0, 60, 75, 72, 0);
+        wayIs("14 corner", x, 2, 1, 16, 6, 60, 75, 0, 0);
+        wayIs("14 corner", x, 0, 2, 16, 6, 60, 75, 0, 6);
+        wayIs("14 corner", x, 2, 2, 16, 0, 60, 75, 0, 6);
+        wayIs("14 corner", x, 3, 2, 16, 0, 60, 75, 72, 6);
+        due("15 corner", x.where(0, 1, 30, 0) * 10 + x.where(0, 1, 30, 1), 0);
+        due("15 corner", x.where(1, 1, 75, 0) * 10 + x.where(1, 1, 75, 2), 721);
+        due("15 behind the corner", x.where(1, 1, 76, 0), -6);
+        due("17 corner", x.share(1, 0, 1, 0) * 100 + x.share(1, 0, 1, 1), 16);
+        x.stand(1, 0, 0, 79);
+        due("17 corner", x.share(1, 0, 1, 0) * 100 + x.share(1, 0, 1, 1), 1616);
+        due("18 corner", x.take(0, 1), 16);
+        dishIs("18 corner", x, 0, 0, 0, 76, 36, 3, 12);
+    }
+
     private static void promise15Where() {
         DishRounds x = new DishRounds();
         x.pass(1, 2);
@@ -733,6 +767,7 @@ public final class PromiseTest {
         promise13Dish();
         promise14Way();
         term2Ways();
+        term2Corners();
         promise15Where();
         promise16Offer();
         promise17Share();

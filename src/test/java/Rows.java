@@ -1,9 +1,12 @@
 import java.lang.reflect.InvocationTargetException;
 import java.lang.reflect.Method;
+import java.lang.reflect.Modifier;
 import java.util.ArrayList;
+import java.util.Arrays;
 import java.util.HashMap;
 import java.util.List;
 import java.util.Map;
+import java.util.function.IntFunction;
 
 /**
  * Runs of calls that are written as rows, each run on an object of its own; rows end at a line's end or a semicolon.
@@ -14,15 +17,15 @@ import java.util.Map;
 final class Rows {
     /** The document promises nothing behind these. */
     static final int MOST_CALLS = 512;
-    private static final Map<String, Integer> NAMES = new HashMap<>(Map.of(
+    private static final Map<String, Integer> NAMES = Map.of(
         "UNKNOWN", -1, "OUTSIDE", -2, "STATE", -3, "FULL", -4, "NO", -5, "NONE", -6,
-        "MIN", Integer.MIN_VALUE, "MAX", Integer.MAX_VALUE));
+        "MIN", Integer.MIN_VALUE, "MAX", Integer.MAX_VALUE);
     private static final Map<String, Method> CALLS = new HashMap<>();
     static int wrong = 0;
 
     static {
         for (Method m : DishRounds.class.getDeclaredMethods()) {
-            if (java.lang.reflect.Modifier.isPublic(m.getModifiers())) {
+            if (Modifier.isPublic(m.getModifiers())) {
                 CALLS.put(m.getName(), m);
             }
         }
@@ -74,22 +77,31 @@ final class Rows {
         }
     }
 
+    /** The class, or a model of it. */
+    interface Answerer {
+        Integer answer(String call, int[] numbers);
+    }
+
     /** The answers to rows without answers of their own, refusals among them, on an object that is there. */
     static List<Integer> answers(DishRounds x, String rows) {
+        return answers((call, numbers) -> ask(x, call, numbers), rows);
+    }
+
+    static List<Integer> answers(Answerer x, String rows) {
         List<Integer> all = new ArrayList<>();
         for (String row : rows.split("[;\n]")) {
             if (!row.isBlank()) {
                 String[] words = row.trim().split("\\s+");
                 for (int[] numbers : eachOf(words, -1)) {
-                    all.add(ask(x, words[0], numbers));
+                    all.add(x.answer(words[0], numbers));
                 }
             }
         }
         return all;
     }
 
-    /** "point 1 0 0..2" as three rows and the like, so that rows can be made of numbers. */
-    static String each(int least, int most, java.util.function.IntFunction<String> row) {
+    /** One row for each number, where a range will not do, as the answers differ. */
+    static String each(int least, int most, IntFunction<String> row) {
         StringBuilder text = new StringBuilder();
         for (int i = least; i <= most; i++) {
             text.append(row.apply(i)).append('\n');
@@ -112,7 +124,7 @@ final class Rows {
         int times = 1;
         if (words[words.length - 1].startsWith("x")) {
             times = Integer.parseInt(words[words.length - 1].substring(1));
-            words = java.util.Arrays.copyOf(words, words.length - 1);
+            words = Arrays.copyOf(words, words.length - 1);
         }
         String[] due = halves.length > 1 ? halves[1].trim().split("\\s+") : new String[0];
         boolean isList = words[words.length - 1].equals("*");
@@ -144,7 +156,7 @@ final class Rows {
             int till = words[i].equals("*") ? star : number(ends[ends.length - 1]);
             for (int[] start : all) {
                 for (int n = from; n <= till; n++) {
-                    int[] more = java.util.Arrays.copyOf(start, start.length + 1);
+                    int[] more = Arrays.copyOf(start, start.length + 1);
                     more[start.length] = n;
                     longer.add(more);
                     if (n == Integer.MAX_VALUE) {
@@ -162,7 +174,7 @@ final class Rows {
         Integer got = ask(x, call, numbers);
         boolean isDue = got != null && (due == null ? got >= 0 : got.equals(due));
         if (!isDue) {
-            fault(title + ": call " + calls + ", " + call + java.util.Arrays.toString(numbers) + " answered "
+            fault(title + ": call " + calls + ", " + call + Arrays.toString(numbers) + " answered "
                 + (got == null ? "nothing, it threw" : got) + ", due is " + (due == null ? "no refusal" : due));
         }
     }

@@ -154,6 +154,59 @@ final class TermSentences {
             dish 0 0 = 30
             way 0 2 4 = 30
             """);
+        says("Terms", "Whatever is told is told as things are then.", """
+            pass 1 1
+            image 0
+            point 1 0 5
+            way 0 1 * = 1 1 1 1 24 5
+            point 1 1 5
+            way 0 1 * = 2 2 1 2 25 5
+            image 1
+            stand 0 0 6 1
+            way 0 1 * = 1 2 2 2 25 5
+            stand 0 0 6 0
+            point 1 3 5
+            way 0 1 * = 2 2 1 2 25 5
+            set 0 1 2
+            way 0 1 * = 3 4 1 3 27 5
+            set 0 0 12
+            way 0 1 * = 3 4 1 3 15 5
+            sun 0 40 5 0
+            way 0 1 * = 2 4 2 3 15 5
+            sun 0 40 5 -1
+            way 0 1 * = 3 4 1 3 15 5
+            storm 2 2
+            way 0 1 * = 2 6 1 3 15 5
+            storm 2 1
+            way 0 1 * = 3 4 1 3 15 5
+            restore 1
+            way 0 1 * = 2 2 1 2 25 5
+            drop 1
+            track 1 1  0 6  0 4
+            way 0 1 * = 1 2 2 2 24 4
+            restore 0
+            way 0 1 0 = STATE
+            point 1 0 5
+            track 2 3  0 5
+            offer 2 * = 0 1
+            way 0 2 * = 1 1 3 3 24 5
+            take 0 1 = 1
+            way 0 2 * = 1 0 3 3 24 5
+            drop 1
+            stand 0 0 6 0
+            track 1 1  0 5
+            way 0 2 * = 1 1 3 3 24 5
+            round = 2
+            stand 0 0 6 0
+            drop 2
+            track 2 3  1 5
+            way 0 2 * = 1 2 3 3 25 5
+            key 6
+            track 3 0  0 6
+            where 0 3 0 2 = 1
+            key 5
+            where 0 3 0 2 = 0
+            """);
     }
 
     private static void directionsAndTicks() {
@@ -178,6 +231,13 @@ final class TermSentences {
             way 0 1 0 = 2
             storm 8 8
             way 0 1 5 = 6
+            storm 8 7
+            key 6
+            track 2 1  0 0  1 5
+            way 0 2 * = 1 2 2 2 25 5
+            stand 0 0 0 0
+            track 3 1  22 6  1 1
+            way 0 3 * = 1 2 2 2 25 1
             """);
         says("Terms 1", "TICKS are 0 to 79.", """
             burnt 0 0 0 = 0
@@ -348,6 +408,10 @@ final class TermSentences {
             burnt 3 2 0 = 1
             burnt 4 2 0 = 0
             burnt 3 3 0 = 0
+            burnt 1 5..6 0 = 0
+            sun 1 40 6 2
+            burnt 1 0..3 0 = 0
+            burnt 1 4..6 0 = 1
             """);
         says("Terms 1", "(By CONE -1 none is.)", """
             burnt 0..23 0..6 0 = 0
@@ -418,7 +482,31 @@ final class TermSentences {
             rows += "track 1 1 0 1; way 0 1 0 = 0; drop 1;";
         }
         says("Terms 2", "from TICK to TICK the WIND is changed by SPEED at the most, the HEIGHT by 1 at the most, either way;",
-            rows);
+            rows + """
+            set 0 1 1
+            stand 0 0 5 0
+            track 1 1  1 5  12 0  12 0  12 0  22 5
+            way 0 1 * = 2 4 1 5 22 5
+            where 0 1 1 0 = 25
+            where 0 1 2 0 = 24
+            where 0 1 3 0 = 23
+            where 0 1 4..5 0 = 22
+            track 2 1  22 5  2 5
+            way 0 2 * = 1 2 2 2 26 5
+            where 0 2 1 0 = 25
+            stand 0 0 6 0
+            track 3 5  0 3
+            where 0 3 1 1 = 5
+            where 0 3 2 1 = 4
+            where 0 3 3..5 1 = 3
+            stand 0 0 3 0
+            track 4 1  23 5  1 5
+            way 0 4 * = 1 3 2 2 25 5
+            where 0 4 1 * = 24 4 0
+            track 5 1  23 1  1 1
+            way 0 5 * = 1 3 2 2 25 1
+            where 0 5 1 * = 24 2 0
+            """);
     }
 
     private static void whatWaysMayNot() {
@@ -464,6 +552,15 @@ final class TermSentences {
             way 0 2 * = 0 1 NONE NONE 28 4
             where 0 2 1..3 0 = 28
             where 0 2 1..3 1 = 4
+            set 0 0 15
+            stand 0 3 5 0
+            sun 3 40 5 0
+            way 0 2 * = 0 1 NONE NONE 17 5
+            sun 9 40 5 0
+            way 0 2 * = 0 0 NONE NONE 18 5
+            stand 0 -3 5 0
+            sun 21 40 5 0
+            way 0 2 * = 0 1 NONE NONE 11 5
             """);
         says("Terms 2", "and, if it is a TICK of the STORM, its HEIGHT is 6.", """
             stand 0 0 4 0
@@ -634,6 +731,15 @@ final class TermSentences {
             stand 1 0 5 0
             track 3 3  3 5  22 5
             way 1 3 * = 1 2 4 4 22 5
+            track 4 1  1 5  12 0  22 5
+            way 1 4 * = 1 1 1 1 25 5
+            track 5 1  23 5  12 0  2 5
+            way 1 5 * = 1 1 1 1 23 5
+            stand 1 0 3 0
+            track 6 1  0 4  12 0  0 1
+            way 1 6 * = 1 1 1 1 24 4
+            track 7 1  0 2  12 0  0 5
+            way 1 7 * = 1 1 1 1 24 2
             """);
     }
 
@@ -679,6 +785,11 @@ final class TermSentences {
             track 4 1  0 5  0 3
             way 0 4 * = 1 1 2 2 24 3
             where 0 4 1 1 = 3
+            stand 0 0 3 0
+            sun 22 40 3 1
+            track 5 2  1 1  23 5
+            way 0 5 * = 1 3 2 2 25 1
+            where 0 5 1 * = 24 2 0
             """);
     }
 
@@ -775,6 +886,16 @@ final class TermSentences {
             share 1 0 1 1 = 5
             share 1 1 0 0 = 5
             share 1 1 0 1 = 3
+            track 2 1  23 5  22 5  13 5  14 5
+            share 2 0 1 * = 2 4
+            track 3 1  1 5  2 5  11 5  10 5
+            share 3 0 1 * = 2 4
+            stand 0 0 3 0
+            stand 1 12 3 0
+            track 4 1  0 4  0 5  12 1  12 0
+            share 4 0 1 * = 2 4
+            track 5 1  0 2  0 1  12 5  12 5
+            share 5 0 1 * = 2 4
             """);
     }
 
@@ -818,6 +939,14 @@ final class TermSentences {
             storm 2 2
             share 1 0 1 0 = 2
             share 1 0 1 1 = 2
+            storm 2 1
+            stand 1 0 5 1
+            share 1 0 1 * = 1 3
+            track 2 0  0 5  0 5
+            share 2 0 1 * = 1 2
+            share 2 2 1 * = 0 1
+            track 3 0  0 5  0 5  12 0
+            share 3 0 1 * = 1 2
             """);
     }
 

@@ -236,8 +236,9 @@ final class TermSentences {
             track 2 1  0 0  1 5
             way 0 2 * = 1 2 2 2 25 5
             stand 0 0 0 0
-            track 3 1  22 6  1 1
-            way 0 3 * = 1 2 2 2 25 1
+            track 3 5  22 6  1 1
+            way 0 3 * = 1 2 6 6 25 1
+            where 0 3 5 * = 24 0 0
             """);
         says("Terms 1", "TICKS are 0 to 79.", """
             burnt 0 0 0 = 0

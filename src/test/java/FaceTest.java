@@ -7,6 +7,7 @@ import java.nio.file.Files;
 import java.nio.file.Path;
 import java.util.Set;
 import java.util.TreeSet;
+import java.util.regex.Matcher;
 import java.util.regex.Pattern;
 
 /** The class has the document's face and nothing beside it, and keeps those rules of LANGUAGE.md that are easily looked up. */
@@ -23,6 +24,28 @@ public final class FaceTest {
             wrong++;
             System.out.println("does not hold: " + what);
         }
+    }
+
+    /** What this test holds the class to is what the document shows under 'The public face'. */
+    private static void checkDocument() throws IOException {
+        Path place = Path.of("../shared/DOC.md");
+        if (!Files.isReadable(place)) {
+            System.out.println(place + " is not there: the face is not looked up");
+            return;
+        }
+        String face = Files.readString(place).split("```java")[1].split("```")[0];
+        Set<String> calls = new TreeSet<>();
+        Matcher call = Pattern.compile("public int (\\w+)\\(([^)]*)\\);").matcher(face);
+        while (call.find()) {
+            calls.add(call.group(1) + " " + (call.group(2).isBlank() ? 0 : call.group(2).split(",").length));
+        }
+        check(calls.equals(FACE), "the document's calls are those that are looked for: " + calls);
+        Set<String> constants = new TreeSet<>();
+        Matcher constant = Pattern.compile("([A-Z]+) = (-?\\d+)").matcher(face);
+        while (constant.find()) {
+            constants.add(constant.group(1) + "=" + constant.group(2));
+        }
+        check(constants.equals(CONSTANTS), "the document's constants are those that are looked for: " + constants);
     }
 
     private static void checkMethods() {
@@ -99,6 +122,7 @@ public final class FaceTest {
     }
 
     public static void main(String[] args) throws IllegalAccessException, IOException {
+        checkDocument();
         checkSource();
         checkClasses();
         checkMethods();
